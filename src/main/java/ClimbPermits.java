@@ -433,7 +433,7 @@ public final class ClimbPermits {
         }
     }
 
-    /** All that a slot saves. Its rows are made once; those behind the counts are not in use. */
+    /** All that a slot saves. Its rows are made once; those behind the counts are always as they were made. */
     private static final class Office {
         int today;
         int routeCount;
@@ -460,6 +460,7 @@ public final class ClimbPermits {
             }
         }
 
+        /** Copies the rows that are not in use, too, so that those that a slot did not have are new again. */
         void copyFrom(Office other) {
             today = other.today;
             routeCount = other.routeCount;
@@ -512,11 +513,6 @@ public final class ClimbPermits {
         }
 
         int addClimber() {
-            Climber added = climbers[climberCount];
-            // The row may have been in use before a slot was restored.
-            added.memory = 0;
-            added.strikes = 0;
-            added.barredTo = NONE;
             climberCount++;
             return climberCount - 1;
         }
@@ -528,11 +524,6 @@ public final class ClimbPermits {
             added.day = day;
             added.firstDay = day;
             added.party = party;
-            // The row may have been in use before a slot was restored.
-            added.state = APPLIED;
-            added.paid = 0;
-            added.refunded = 0;
-            added.there = false;
             applicationCount++;
             return applicationCount - 1;
         }

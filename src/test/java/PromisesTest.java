@@ -19,6 +19,7 @@ public final class PromisesTest {
         applyBarredAndFull();
         lotteryErrors();
         lotteryDraws();
+        lotteryWithoutThoseDrawn();
         lotteryOfBarred();
         lotteryMemory();
         cancelRefunds();
@@ -42,6 +43,7 @@ public final class PromisesTest {
         load();
         save();
         restore();
+        restoreOverAnother();
         checks.close();
     }
 
@@ -285,7 +287,23 @@ public final class PromisesTest {
         }
     }
 
-    /** A route with one place and two climbers, of whom the first one has a memory of 2. */
+    private static void lotteryWithoutThoseDrawn() {
+        ClimbPermits office = office(2, 0, 3);
+        office.set(SHIFT, 0);
+        applyAndDraw(office, 0, 1, 1);
+        office.close(1);
+        office.set(SEED, 873);
+        for (int climber = 0; climber < 3; climber++) {
+            office.apply(climber, 0, 20, 1);
+        }
+        // 12 mod 5 = 2 draws the first, that has three tickets; then 974 mod 2 = 0 the second, not 974 mod 5.
+        due(7, "two places", office.lottery(0, 20), 2);
+        due(7, "the first", office.application(1, 4), WON);
+        due(7, "the second", office.application(2, 4), WON);
+        due(7, "the third", office.application(3, 4), LOST);
+    }
+
+    /** A route with one place and some climbers, of whom the first one has a memory of 2. */
     private static ClimbPermits withMemories(int climbers) {
         ClimbPermits office = office(1, 0, climbers);
         office.set(SHIFT, 0);
@@ -510,6 +528,11 @@ public final class PromisesTest {
         due(9, "the last day has no later one", last.close(59), 0);
         due(9, "refunded", last.application(2, 4), REFUNDED);
         due(9, "58 cannot move to 59", last.close(58), 0);
+
+        ClimbPermits toLast = office(1, 0, 1);
+        applyAndDraw(toLast, 0, 58, 1);
+        due(9, "to the last day", toLast.close(58), 1);
+        due(9, "it is there", toLast.application(0, 2), 59);
 
         ClimbPermits there = office(1, 0, 1);
         applyAndDraw(there, 0, 0, 1);
@@ -1102,5 +1125,57 @@ public final class PromisesTest {
         office.wipe();
         office.restore(1);
         due(25, "nor is it saved", office.count(14), 0);
+    }
+
+    /** Each number of an office is restored, also over an office that is another in all of them. */
+    private static void restoreOverAnother() {
+        ClimbPermits office = new ClimbPermits();
+        String empty = Snapshot.of(office);
+        due(25, "the empty office", office.save(1), 0);
+        office.route(5, 2);
+        office.route(7, 1);
+        for (int i = 0; i < 4; i++) {
+            office.join();
+        }
+        office.apply(3, 1, 0, 2);
+        office.apply(2, 0, 0, 4);
+        office.apply(1, 1, 9, 3);
+        office.lottery(1, 0);
+        office.lottery(0, 0);
+        office.lottery(1, 9);
+        office.close(8);
+        office.end();
+        office.apply(0, 1, 1, 1);
+        office.lottery(1, 1);
+        office.show(3);
+        office.cancel(2);
+        String full = Snapshot.of(office);
+        due(25, "the full one", office.save(0), 1);
+        due(25, "the empty one again", office.restore(1), 0);
+        checks.holds("promise 25: empty", empty.equals(Snapshot.of(office)));
+        office.route(12, 0);
+        for (int i = 0; i < 4; i++) {
+            office.join();
+        }
+        office.close(0);
+        office.set(STRIKES, 1);
+        for (int day = 1; day < 10; day++) {
+            applyAndDraw(office, day % 4, day, 1);
+        }
+        due(25, "nobody is there in the new one", office.application(3, 7), 0);
+        endDays(office, 6);
+        due(25, "the full one again", office.restore(0), 1);
+        checks.holds("promise 25: full", full.equals(Snapshot.of(office)));
+        due(25, "and the empty one", office.restore(1), 0);
+        office.route(2, 2);
+        due(25, "a new climber", office.join(), 0);
+        due(25, "a new application", office.apply(0, 0, 3, 1), 0);
+        int[] fresh = {0, 0, 3, 1, APPLIED, 0, 0, 0, 3, 1};
+        for (int what = 0; what < fresh.length; what++) {
+            due(25, "what " + what + " of it", office.application(0, what), fresh[what]);
+        }
+        due(25, "memory", office.climber(0, 0), 0);
+        due(25, "strikes", office.climber(0, 1), 0);
+        due(25, "bar", office.climber(0, 2), NONE);
     }
 }

@@ -12,6 +12,13 @@ final class Call {
     private static final int[] WILD = {Integer.MIN_VALUE, Integer.MAX_VALUE, -1, -2, 60, 61, 40, 12, 6, 13, 1 << 16};
     private static final String SIGNS = "crdx;0123456789crd000111;;";
 
+    /** What a choice goes by. */
+    interface Seen {
+        int count(int what);
+
+        int application(int application, int what);
+    }
+
     final int what;
     final int[] arguments = new int[4];
     long characters;
@@ -20,8 +27,36 @@ final class Call {
         this.what = what;
     }
 
+    static Seen seen(ClimbPermits office) {
+        return new Seen() {
+            @Override
+            public int count(int what) {
+                return office.count(what);
+            }
+
+            @Override
+            public int application(int application, int what) {
+                return office.application(application, what);
+            }
+        };
+    }
+
+    static Seen seen(Reference office) {
+        return new Seen() {
+            @Override
+            public int count(int what) {
+                return office.count(what);
+            }
+
+            @Override
+            public int application(int application, int what) {
+                return office.application(application, what);
+            }
+        };
+    }
+
     /** What the choice goes by: the office as it is, how near the days lie, and how fast they end (in percent). */
-    static Call random(Random random, ClimbPermits office, int spread, int haste) {
+    static Call random(Random random, Seen office, int spread, int haste) {
         Call call = new Call(random.nextInt(100) < haste ? END : choose(random));
         call.fill(random, office, spread);
         if (random.nextInt(25) == 0) {
@@ -45,7 +80,7 @@ final class Call {
     }
 
     /** An application, mostly one in a state, and of today if that is asked for, if there is one. */
-    private static int pick(Random random, ClimbPermits office, int state, boolean ofToday) {
+    private static int pick(Random random, Seen office, int state, boolean ofToday) {
         int applications = office.count(3);
         int from = random.nextInt(applications + 1);
         for (int i = 0; i < applications && random.nextInt(60) > 0; i++) {
@@ -59,12 +94,12 @@ final class Call {
         return from;
     }
 
-    private void useRouteAndDay(ClimbPermits office, int application, int otherRoute, int otherDay) {
+    private void useRouteAndDay(Seen office, int application, int otherRoute, int otherDay) {
         boolean there = application < office.count(3);
         use(there ? office.application(application, 1) : otherRoute, there ? office.application(application, 2) : otherDay);
     }
 
-    private void fill(Random random, ClimbPermits office, int spread) {
+    private void fill(Random random, Seen office, int spread) {
         int today = office.count(0);
         int route = random.nextInt(3);
         int day = today + random.nextInt(spread);

@@ -20,6 +20,7 @@ public final class EdgesOfAnswersTest {
                 EdgesOfAnswersTest::routeApplications);
         edges.test("Promise 13:", "NO_SUCH if there is no such route or day;", EdgesOfAnswersTest::routeNoSuch);
         edges.test("Promise 13:", "BAD_VALUE if what is out of range.", EdgesOfAnswersTest::routeBadValue);
+        edges.test("Promise 14:", "0 the memory, 1 the strikes,", EdgesOfAnswersTest::climberMemoryAndStrikes);
         edges.test("Promise 14:", "2 the last day up to which the climber is or was barred (NONE if never barred),",
                 EdgesOfAnswersTest::climberBarred);
         edges.test("Promise 14:", "3 the permits that the climber has (WON), 4 all that was paid, 5 all that was refunded, "
@@ -29,6 +30,8 @@ public final class EdgesOfAnswersTest {
     }
 
     private static void applicationAndCount() {
+        edges.test("Promise 15:", "0 its climber, 1 its route, 2 its day, 3 its party, 4 its state, 5 what was paid, 6 what was "
+                + "refunded,", EdgesOfAnswersTest::applicationNumbers);
         edges.test("Promise 15:", "7 whether the climbers are there (1 or 0), 8 the day for which it was made,",
                 EdgesOfAnswersTest::applicationThere);
         edges.test("Promise 15:", "9 its tickets in a lottery now, whatever its state is", EdgesOfAnswersTest::applicationTickets);
@@ -163,6 +166,23 @@ public final class EdgesOfAnswersTest {
 
     // ---- climber
 
+    private static void climberMemoryAndStrikes() {
+        ClimbPermits x = Edges.office(1, 0, 12);
+        x.set(Edges.STRIKES, 5);
+        for (int climber = 0; climber < 12; climber += 11) {
+            edges.due("no memory", x.climber(climber, 0), 0);
+            edges.due("no strikes", x.climber(climber, 1), 0);
+        }
+        for (int day = 0; day < 4; day++) {
+            Edges.won(x, 11, 0, day, 1);
+        }
+        Edges.lose(x, 11, 0, 4, 5);
+        Edges.endDays(x, 4);
+        edges.due("memory", x.climber(11, 0), 5);
+        edges.due("strikes, one less than by which one is barred", x.climber(11, 1), 4);
+        edges.due("none of the first climber", x.climber(0, 0) + x.climber(0, 1), 0);
+    }
+
     private static void climberBarred() {
         ClimbPermits x = Edges.office(1, 0, 2);
         edges.due("never", x.climber(0, 2), Edges.NONE);
@@ -227,6 +247,28 @@ public final class EdgesOfAnswersTest {
 
     // ---- application
 
+    private static void applicationNumbers() {
+        ClimbPermits x = Edges.office(1, 0, 12);
+        for (int route = 1; route < 6; route++) {
+            x.route(12, 0);
+        }
+        int[] lowest = {0, 0, 0, 1, Edges.APPLIED, 0, 0};
+        int[] highest = {11, 5, 59, 4, Edges.APPLIED, 0, 0};
+        x.apply(0, 0, 0, 1);
+        x.apply(11, 5, 59, 4);
+        for (int what = 0; what <= 6; what++) {
+            edges.due("the lowest, what " + what, x.application(0, what), lowest[what]);
+            edges.due("the highest, what " + what, x.application(1, what), highest[what]);
+        }
+        x.set(Edges.FEE, 999);
+        x.lottery(5, 59);
+        x.cancel(1);
+        int[] cancelled = {11, 5, 59, 4, Edges.CANCELLED, 3996, 3996};
+        for (int what = 0; what <= 6; what++) {
+            edges.due("cancelled, what " + what, x.application(1, what), cancelled[what]);
+        }
+    }
+
     private static void applicationThere() {
         ClimbPermits x = Edges.office(4, 0, 1);
         Edges.won(x, 0, 0, 0, 1);
@@ -269,6 +311,10 @@ public final class EdgesOfAnswersTest {
                 edges.due("tickets in the state " + states[i], x.application(i, 9), 1 + 3 * each);
             }
         }
+        x.set(Edges.MEMORY, 2);
+        Edges.bar(x, 0, 1, 30);
+        Edges.lose(x, 0, 0, 31, 2);
+        edges.due("tickets of one who is barred then", x.application(5, 9), 5);
     }
 
     private static void applicationNoSuch() {
@@ -504,6 +550,26 @@ public final class EdgesOfAnswersTest {
         x.apply(2, 0, 5, 1);
         x.cancel(6);
         edges.due("one that is CANCELLED is not in it", x.odds(4), 1000000 / 29);
+        oddsOfGreatestMemory();
+    }
+
+    /** A memory as great as forty applications allow, beside another climber: 38 permits that are refunded. */
+    private static void oddsOfGreatestMemory() {
+        ClimbPermits x = Edges.office(1, 0, 2);
+        x.set(Edges.SHIFT, 0);
+        x.set(Edges.MEMORY, 9);
+        for (int day = 0; day < 38; day++) {
+            Edges.won(x, 0, 0, day, 1);
+        }
+        for (int day = 0; day < 38; day++) {
+            edges.due("close " + day, x.close(day), 0);
+        }
+        x.apply(0, 0, 50, 1);
+        x.apply(1, 0, 50, 1);
+        edges.due("memory", x.climber(0, 0), 76);
+        edges.due("tickets", x.application(38, 9), 685);
+        edges.due("685 of 686", x.odds(38), 998542);
+        edges.due("1 of 686", x.odds(39), 1457);
     }
 
     private static void oddsFitOrNot() {

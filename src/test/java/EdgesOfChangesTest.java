@@ -184,6 +184,12 @@ public final class EdgesOfChangesTest {
         edges.due("paid", x.count(11), 400);
         edges.due("refunded", x.count(12), 0);
         edges.due("still to be cancelled", x.cancel(0), 150);
+        ClimbPermits today = Edges.office(4, 0, 1);
+        Edges.won(today, 0, 0, 0, 4);
+        edges.due("beside permits of today", today.buffer(0, 4), 0);
+        edges.due("it is as it was given", today.onRoute(0, 0, 1), 4);
+        edges.due("their places", today.onRoute(0, 0, 2), 4);
+        edges.due("used", today.show(0), 1);
     }
 
     private static void bufferRange() {

@@ -34,6 +34,9 @@ public final class EdgesOfTermsTest {
         edges.test(terms, "There are up to 40 applications, in the order in which they were made; they are never removed.",
                 EdgesOfTermsTest::applications);
         edges.test(terms, "a party (1 to 4 places),", EdgesOfTermsTest::parties);
+        edges.test(terms, "and a state: APPLIED (0), WON (1), which is a permit; LOST (2), which waits; CANCELLED (3), REFUNDED (4), "
+                + "USED (5), NOT_USED (6).", EdgesOfTermsTest::states);
+        edges.test(terms, "It has what was paid for it and what was refunded.", EdgesOfTermsTest::paidAndRefunded);
         edges.test(terms, "The places that are taken on a route and a day are the sum of the parties of its applications that "
                 + "are WON, USED or NOT_USED.", EdgesOfTermsTest::placesTaken);
         edges.test(terms, "A permit is given to an application: it becomes WON, and FEE * party is paid for it.",
@@ -564,6 +567,59 @@ public final class EdgesOfTermsTest {
             edges.due("its permit", x.lottery(0, party), 1);
             edges.due("its places", x.onRoute(0, party, 2), party);
         }
+    }
+
+    private static void states() {
+        int[] constants = {ClimbPermits.APPLIED, ClimbPermits.WON, ClimbPermits.LOST, ClimbPermits.CANCELLED, ClimbPermits.REFUNDED,
+            ClimbPermits.USED, ClimbPermits.NOT_USED};
+        for (int state = 0; state < constants.length; state++) {
+            edges.due("the constant " + state, constants[state], state);
+        }
+        ClimbPermits x = Edges.office(3, 0, 1);
+        x.apply(0, 0, 0, 1);
+        edges.due("when it is made", x.application(0, 4), 0);
+        x.lottery(0, 0);
+        edges.due("when it won", x.application(0, 4), 1);
+        x.end();
+        edges.due("when it was not used", x.application(0, 4), 6);
+        x.apply(0, 0, 1, 4);
+        x.lottery(0, 1);
+        edges.due("when it lost", x.application(1, 4), 2);
+        x.cancel(1);
+        edges.due("when it is cancelled", x.application(1, 4), 3);
+        Edges.won(x, 0, 0, 1, 1);
+        x.show(2);
+        x.end();
+        edges.due("when it was used", x.application(2, 4), 5);
+        Edges.won(x, 0, 0, 59, 1);
+        x.close(59);
+        edges.due("when it is refunded", x.application(3, 4), 4);
+    }
+
+    private static void paidAndRefunded() {
+        ClimbPermits x = Edges.office(4, 0, 1);
+        x.set(Edges.FEE, 1000);
+        x.apply(0, 0, 59, 4);
+        edges.due("nothing at first", x.application(0, 5) + x.application(0, 6), 0);
+        x.lottery(0, 59);
+        edges.due("paid", x.application(0, 5), 4000);
+        edges.due("nothing refunded", x.application(0, 6), 0);
+        x.close(59);
+        edges.due("refunded", x.application(0, 6), 4000);
+        edges.due("what was paid stays", x.application(0, 5), 4000);
+        ClimbPermits forty = Edges.office(12, 0, 1);
+        forty.set(Edges.FEE, 1000);
+        forty.set(Edges.SHIFT, 0);
+        for (int day = 0; day < 40; day++) {
+            Edges.won(forty, 0, 0, day, 4);
+        }
+        for (int day = 0; day < 40; day++) {
+            forty.close(day);
+        }
+        edges.due("the most that can be paid", forty.count(11), 160000);
+        edges.due("the most that can be refunded", forty.count(12), 160000);
+        edges.due("paid by one climber", forty.climber(0, 4), 160000);
+        edges.due("refunded to one climber", forty.climber(0, 5), 160000);
     }
 
     private static void placesTaken() {

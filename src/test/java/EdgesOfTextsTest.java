@@ -365,6 +365,12 @@ public final class EdgesOfTextsTest {
             edges.due("its fault", x.fault(), 0);
             edges.due("again", x.wipe(), 0);
         }
+        ClimbPermits x = withPad(FULL);
+        for (int length = 1; length <= 60; length++) {
+            x.wipe();
+            Edges.write(x, FULL.substring(0, length));
+            edges.due("nothing of before stands behind " + length, x.fault(), withPad(FULL.substring(0, length)).fault());
+        }
     }
 
     private static void faultOrNone() {
@@ -374,6 +380,9 @@ public final class EdgesOfTextsTest {
         faultOf(FULL.substring(0, 59) + ";", 59);
         faultOf(FULL.substring(0, 53) + ";c0r0d", 59);
         faultOf("c0r0d10;c0r0d11;c0r0d12;c0r0d13;c0r0d14;c0r0d15;c0r0d16;c0r0", 60);
+        faultOf("c0r0d10;c0r0d11;c0r0d12;c0r0d13;c0r0d14;c0r0d15;c0r0d1;c0r0d", 60);
+        faultOf("c0r0d10;c0r0d11;c0r0d12;c0r0d13;c0r0d14;c0r0d15;c0r0d16x1;c0", 60);
+        faultOf("c0r0d10;c0r0d11;c0r0d12;c0r0d13;c0r0d14;c0r0d15x1;c0r0d1x1;c", 60);
         ClimbPermits x = withPad("c0r0d");
         edges.due("before", x.fault(), 5);
         edges.due("again", x.fault(), 5);
@@ -496,43 +505,73 @@ public final class EdgesOfTextsTest {
         everythingElse();
     }
 
-    /** All that can be another is made another, and comes back; also to an office that had nothing. */
+    /** Two offices that are different in all that can be, and an empty one, come back over one another. */
     private static void everythingElse() {
+        ClimbPermits empty = new ClimbPermits();
+        empty.save(0);
+        oneOffice(empty);
+        empty.restore(0);
+        edges.due("nothing", empty.count(0) + empty.count(1) + empty.count(2) + empty.count(3) + empty.count(13), 0);
+        edges.due("no route", empty.onRoute(0, 0, 0), Edges.NO_SUCH);
+        edges.due("the first settings", empty.count(15) * 1000 + empty.count(20), 100001);
+        anotherOffice(empty);
+        String another = numbers(Edges.told(EdgesOfTextsTest::anotherOffice));
+        edges.due("all is new again", numbers(empty).equals(another) ? 1 : 0, 1);
+
+        String one = numbers(Edges.told(EdgesOfTextsTest::oneOffice));
+        edges.due("they are not the same", one.equals(another) ? 1 : 0, 0);
         ClimbPermits x = new ClimbPermits();
+        x.save(0);
+        oneOffice(x);
         x.save(1);
+        x.restore(0);
+        anotherOffice(x);
+        x.save(0);
+        edges.due("the first one", x.restore(1), 1);
+        edges.due("all of it", numbers(x).equals(one) ? 1 : 0, 1);
+        edges.due("the other one", x.restore(0), 2);
+        edges.due("all of it, too", numbers(x).equals(another) ? 1 : 0, 1);
+    }
+
+    private static void oneOffice(ClimbPermits x) {
         Edges.open(x, 4, 1, 2);
         x.route(7, 3);
         for (int setting = 0; setting <= 5; setting++) {
             x.set(setting, 3);
         }
         Edges.won(x, 0, 0, 0, 1);
-        Edges.won(x, 1, 0, 0, 1);
+        Edges.won(x, 1, 0, 0, 2);
         x.show(1);
         Edges.lost(x, 0, 0, 20, 4);
-        x.set(Edges.STRIKES, 1);
         Edges.won(x, 1, 1, 1, 1);
+        x.close(0);
         x.end();
-        x.show(4);
+        x.show(0);
+        x.show(3);
         x.close(9);
-        x.save(0);
-        String full = numbers(x);
-        x.buffer(1, 0);
-        x.restore(1);
-        edges.due("nothing", x.count(0) + x.count(1) + x.count(2) + x.count(3) + x.count(13), 0);
-        edges.due("no route", x.onRoute(0, 0, 0), Edges.NO_SUCH);
-        edges.due("the first settings", x.count(15) * 1000 + x.count(20), 100001);
-        Edges.open(x, 9, 9, 1);
-        x.apply(0, 0, 5, 4);
-        edges.due("a new application", x.application(0, 4) * 1000 + x.application(0, 5), 0);
-        edges.due("a new climber", x.climber(0, 0) + x.climber(0, 1) + x.climber(0, 2), Edges.NONE);
-        x.restore(0);
-        edges.due("all of it", full.equals(numbers(x)) ? 1 : 0, 1);
+    }
+
+    private static void anotherOffice(ClimbPermits x) {
+        Edges.open(x, 9, 2, 2);
+        x.route(8, 0);
+        Edges.won(x, 1, 1, 2, 3);
+        Edges.won(x, 0, 1, 2, 1);
+        Edges.won(x, 1, 1, 30, 2);
+        x.cancel(2);
+        x.set(Edges.STRIKES, 1);
+        Edges.won(x, 0, 0, 1, 4);
+        x.buffer(0, 9);
+        Edges.lost(x, 1, 0, 6, 4);
+        Edges.endDays(x, 2);
+        x.show(1);
+        x.close(10);
+        x.close(11);
     }
 
     private static String numbers(ClimbPermits x) {
         StringBuilder all = new StringBuilder();
         for (int what = 0; what <= 20; what++) {
-            all.append(what == 14 ? 0 : x.count(what)).append(' ');
+            all.append(x.count(what)).append(' ');
         }
         for (int i = 0; i < 2; i++) {
             for (int what = 0; what <= 6; what++) {
@@ -544,7 +583,10 @@ public final class EdgesOfTextsTest {
                 all.append(x.application(i, what)).append(' ');
             }
         }
-        return all.append(x.apply(0, 0, 9, 1)).toString();
+        for (int day = x.count(0); day < 12; day++) {
+            all.append(x.apply(0, 0, day, 1)).append(' ');
+        }
+        return all.toString();
     }
 
     private static void saveOverwrites() {

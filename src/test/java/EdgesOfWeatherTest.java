@@ -82,6 +82,16 @@ public final class EdgesOfWeatherTest {
         order.set(Edges.SHIFT, 1);
         order.close(8);
         edges.due("nowhere to", order.close(7), 0);
+
+        ClimbPermits forty = Edges.office(12, 0, 12);
+        for (int i = 0; i < 28; i++) {
+            forty.apply(0, 0, 20 + i, 1);
+        }
+        for (int climber = 0; climber < 12; climber++) {
+            Edges.won(forty, climber, 0, 5, 1);
+        }
+        edges.due("the last twelve of forty applications", forty.close(5), 12);
+        onDay("the last one", forty, 39, 6, Edges.WON);
     }
 
     private static void firstLaterDay() {
@@ -326,6 +336,13 @@ public final class EdgesOfWeatherTest {
         onDay("of its route and day", x, 1, 5, Edges.WON);
         onDay("of another day", x, 3, 6, Edges.LOST);
         onDay("of another route", x, 5, 5, Edges.LOST);
+
+        ClimbPermits first = Edges.office(2, 2, 2);
+        Edges.lost(first, 0, 0, 5, 1);
+        first.buffer(0, 0);
+        Edges.won(first, 1, 0, 5, 2);
+        first.cancel(1);
+        onDay("the application 0 waits, too", first, 0, 5, Edges.WON);
 
         ClimbPermits moved = Edges.office(1, 0, 3);
         Edges.won(moved, 0, 0, 5, 1);

@@ -82,7 +82,7 @@ public final class SteadyTest {
             int spread = 2 + random.nextInt(8);
             String before = Snapshot.of(office);
             for (int i = 0; i < 300; i++) {
-                Call call = Call.random(random, office, spread, 0);
+                Call call = Call.random(random, Call.seen(office), spread, 0);
                 int answer = call.on(office);
                 String behind = Snapshot.of(office);
                 boolean asks = call.what >= 11 && call.what <= 17 || call.what == 20 || call.what == 22;
@@ -100,7 +100,7 @@ public final class SteadyTest {
             Random random = new Random(9000 + run);
             ClimbPermits office = new ClimbPermits();
             for (int i = 0; i < 20000; i++) {
-                int answer = Call.random(random, office, 5, 0).on(office);
+                int answer = Call.random(random, Call.seen(office), 5, 0).on(office);
                 checks.holds("an answer", answer >= -6);
             }
         }
@@ -112,7 +112,7 @@ public final class SteadyTest {
         ClimbPermits chosen = full();
         for (int i = 0; i < calls.length; i++) {
             ClimbPermits chosenBy = i % 512 == 0 ? full() : chosen;
-            calls[i] = Call.random(random, chosenBy, 6, 0);
+            calls[i] = Call.random(random, Call.seen(chosenBy), 6, 0);
             calls[i].on(chosenBy);
             chosen = chosenBy;
         }
